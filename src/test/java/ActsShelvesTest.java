@@ -136,6 +136,7 @@ public final class ActsShelvesTest {
             }
             D.due("no sixty-first", x.put(sort, 60, 1), -13);
             D.due("a new one", x.row(sort, sort, 2), 1);
+            D.due("0 at first again", x.element(sort, 0), 0);
             D.due("0 at first again", x.element(sort, 1), 0);
             D.due("no third", x.put(sort, 2, 1), -13);
             D.due("-14 changes nothing", x.row(sort, 0, -1), -14);

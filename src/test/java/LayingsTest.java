@@ -173,6 +173,8 @@ public final class LayingsTest {
         D.due("behind it in two", x.of(joined, 4), 70);
         int alone = lay(x, 4, 1, 0, 0, 1, 1, 0);
         D.due("without an engine in two", x.of(alone, 3), 14);
+        OverHill y = hill();
+        D.due("all ahead of the engine", y.of(lay(y, 4, 1, 0, 0, 0, 0, 0), 3), 2);
         int told = lay(x, 5, 1, 0, 0);
         D.due("told in one", x.of(told, 3), 2);
     }

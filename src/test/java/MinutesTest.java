@@ -120,6 +120,8 @@ public final class MinutesTest {
         D.due("50 minutes still", x.lasts(l), 50);
         D.due("laying -1", x.lasts(-1), OverHill.BAD);
         D.due("laying 1", x.lasts(1), OverHill.BAD);
+        OverHill y = LayingsTest.hill();
+        D.due("an engine in its first part", y.lasts(LayingsTest.lay(y, 4, 0, 2, 0)), 70);
         D.due("no parts", x.lasts(x.laying(0, 0)), 999);
     }
 
@@ -202,6 +204,7 @@ public final class MinutesTest {
     }
 
     private static void packed(OverHill x, int most, int chances, int sum, int set) {
+        D.due("cart(" + most + ", " + chances + ", 1) first", x.cart(most, chances, 1), set);
         D.due("cart(" + most + ", " + chances + ", 0)", x.cart(most, chances, 0), sum);
         D.due("cart(" + most + ", " + chances + ", 1)", x.cart(most, chances, 1), set);
     }
@@ -227,6 +230,9 @@ public final class MinutesTest {
         packed(x, 29, 100 * first, 1000, 1);
         packed(x, 99, 100 * 101, 2000, 1);
         packed(x, 99, 100, 6000, 7);
+        packed(x, 99, 100 * 101 + 100, 5000 + 1000 + 2000, 7);
+        packed(x, 99, 1030300, 6000 + 6000 + 2000, 7);
+        packed(x, Integer.MAX_VALUE, 0, 0, 0);
         packed(x, 30, 100, 5000, 5);
         packed(x, 24, 100, 3000, 1);
         packed(x, 55, 50 * first + 25 * 101 + 10, 500 + 500 + 300 + 2500 + 100 + 200, 7);
@@ -243,6 +249,12 @@ public final class MinutesTest {
         like.thing(7, 3);
         like.thing(7, 3);
         packed(like, 13, 1, 3, 1);
+        like.unthing();
+        like.thing(1, 9999);
+        like.thing(1, 10000);
+        packed(like, 2, first, 1, 2);
+        packed(like, 2, 101, 99, 1);
+        packed(like, 2, 1, 99, 1);
     }
 
     private static void promise34() {
@@ -340,5 +352,23 @@ public final class MinutesTest {
         }
         D.due("it is 45", x.height(0, 45), 45);
         D.due("40 again", x.count(7), 40);
+        OverHill y = new OverHill();
+        y.point(0);
+        // Changes of height and age by turns: the first three of 43 are not kept.
+        for (int i = 1; i <= 43; i++) {
+            D.due("by turns", i % 2 == 1 ? y.height(0, i) : y.bore(2, 2, i), Math.max(0, i - 2));
+        }
+        for (int i = 0; i < 39; i++) {
+            y.undo();
+        }
+        D.due("the fourth, an age, stands", y.bore(2, 2, 4), 4);
+        D.due("the third, a height, stands", y.height(0, 3), 3);
+        D.due("the fourth", y.undo(), 0);
+        D.due("the second stands", y.bore(2, 2, 2), 2);
+        for (int i = 39; i >= 0; i--) {
+            D.due("redo", y.redo(), i);
+        }
+        D.due("the last age", y.bore(2, 2, 42), 42);
+        D.due("the last height", y.height(0, 43), 43);
     }
 }

@@ -100,6 +100,18 @@ public final class MostTest {
         most("twice the hose", y, two, 4000, 500, 1, 0);
         stores(y, 19, 40, 0);
         most("all by bore 1", y, two, 4000, 400, 11, 0);
+        // Each of two lines loses 10 (f + 1) / 2 along a way, one line 10 f.
+        Due.table(y, "b1:0,50,100,150,200,250,300,350,400,450,500,550,600");
+        most("half through each line", y, two, 4000, 300, 11, 0);
+        most("an odd flow is the dearer one", y, two, 9980, 0, 11, 0);
+        most("an odd flow is the dearer one", y, two, 9960, 2, 11, 0);
+        int joined = LayingsTest.lay(y, 4, 0, 1, 0, 1, 0, 1, 1, 1, 1);
+        most("all behind the engine in two", y, joined, 4000, 300, 11, 0);
+        y.part(joined, 0, 2, 0);
+        most("the first way by the one line that bore 0 has", y, joined, 14000, 240, 1, 1);
+        int three = LayingsTest.lay(y, 1, 0, 3, 0, 1, 0, 0, 1, 1, 0, 0, 4, 0);
+        stores(y, 0, 40, 0);
+        most("one line takes all", y, three, 14000, 150, 11, 1);
     }
 
     private static void mostOfTubbed() {
@@ -215,6 +227,8 @@ public final class MostTest {
         for (int[] of : bad) {
             D.due("goes of what is not there", x.goes(of[0], of[1], of[2]), OverHill.BAD);
         }
+        int ahead = LayingsTest.lay(x, 4, 1, 0, 0, 0, 3, 0);
+        D.due("ahead of the engine in one", x.goes(ahead, 0, 0), 0);
         int joined = LayingsTest.lay(x, 4, 0, 1, 0, 1, 0, 0, 0, 2, 0, 1, 1, 0);
         D.due("ahead of the last engine in one", x.goes(joined, 1, 0), 0);
         D.due("behind it one is left", x.goes(joined, 3, 9000), 500);

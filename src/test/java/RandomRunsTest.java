@@ -27,6 +27,10 @@ public final class RandomRunsTest {
             for (; call < ground && wrong == 0; call++) {
                 begin();
             }
+            // Some runs tell changes above all, so that more come than are kept.
+            for (; call < 200 && wrong == 0 && run % 10 == 1; call++) {
+                changeCall();
+            }
             for (; call < CALLS && wrong == 0; call++) {
                 any();
             }
@@ -310,17 +314,21 @@ public final class RandomRunsTest {
     }
 
     private static void changeCall() {
-        int draw = random.nextInt(6);
-        if (draw < 2) {
+        int draw = random.nextInt(8);
+        if (draw == 6) {
+            int p = point();
+            int h = height();
+            due("height(" + p + ", " + h + ")", x.height(p, h), y.height(p, h));
+        } else if (draw < 2) {
             due("undo()", x.undo(), y.undo());
-        } else if (draw < 4) {
+        } else if (draw == 2) {
             due("redo()", x.redo(), y.redo());
-        } else if (draw == 4) {
+        } else if (draw != 3) {
             int b = below(3);
             int w = below(3);
             int v = below(4);
             due("bore(" + b + ", " + w + ", " + v + ")", x.bore(b, w, v), y.bore(b, w, v));
-            if (random.nextBoolean()) {
+            if (random.nextInt(4) == 0) {
                 due("undo()", x.undo(), y.undo());
             }
         } else {

@@ -43,9 +43,9 @@ public final class TapeTest {
 
     private static void promise8() {
         OverHill x = withEngine();
-        String[] heads = {"", "B", "x0:1", " b0:1", "b", "bb0:1", "b3:1", "b9:1", "b/", "b:", "e1:1", "e6:1", "b0",
+        String[] heads = {"", "1", "12,3", "B", "x0:1", " b0:1", "b", "bb0:1", "b3:1", "b9:1", "b/", "b:", "e1:1", "e6:1", "b0",
             "b0;1", "b01", "e0", "b0:", "b0: 1", "b0:,", "b0:-1", "b0:x", "b0::"};
-        int[] faults = {0, 0, 0, 0, 1, 1, 1, 1, 1, 1, 1, 1, 2, 2, 2, 2, 3, 3, 3, 3, 3, 3};
+        int[] faults = {0, 0, 0, 0, 0, 0, 1, 1, 1, 1, 1, 1, 1, 1, 2, 2, 2, 2, 3, 3, 3, 3, 3, 3};
         for (int i = 0; i < heads.length; i++) {
             D.due("'" + heads[i] + "'", Due.table(x, heads[i]), -100 - faults[i]);
         }
