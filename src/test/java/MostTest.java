@@ -6,6 +6,7 @@ public final class MostTest {
         promise19();
         mostOfJoined();
         mostOfTubbed();
+        mostKeepsTheOrder();
         mostIsBig();
         promise20();
         promise21();
@@ -131,6 +132,26 @@ public final class MostTest {
         most("it starves", x, up, 0, OverHill.NOT, OverHill.NOT, OverHill.NOT);
         x.height(1, 99);
         most("behind it goes up", x, up, 0, OverHill.NOT, OverHill.NOT, OverHill.NOT);
+    }
+
+    private static void mostKeepsTheOrder() {
+        for (int first = 4; first <= 5; first++) {
+            OverHill x = flat();
+            Due.table(x, "e4:1000");
+            Due.table(x, "e5:2000");
+            x.height(1, 135);
+            int l = LayingsTest.lay(x, 1, 0, first, 0, 1, 0, 2, 0, 9 - first, 0, 1, 1, 2);
+            // Over 35 feet the second one starves behind the one that lifts 1000.
+            int most = first == 5 ? 600 : OverHill.NOT;
+            most("both lift", x, l, 3000, most, first == 5 ? 0 : most, first == 5 ? 1 : most);
+            most("both lift no more", x, l, 3001, OverHill.NOT, OverHill.NOT, OverHill.NOT);
+        }
+        OverHill y = flat();
+        int tubbed = LayingsTest.lay(y, 3, 0, 0, 0, 1, 0, 0, 2, 0, 0, 1, 1, 0, 1, 2, 0);
+        most("a tub ahead of the second way", y, tubbed, 0, 600, 0, 0);
+        int line = LayingsTest.lay(y, 1, 0, 1, 0, 1, 0, 0, 1, 1, 0, 1, 2, 0);
+        most("the next laying has none", y, line, 4000, 600, 0, 0);
+        most("a way less", y, LayingsTest.lay(y, 1, 0, 2, 0, 1, 0, 0), 4000, 600, 0, 0);
     }
 
     private static void mostIsBig() {
