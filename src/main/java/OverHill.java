@@ -58,10 +58,7 @@ public final class OverHill {
     // ---- ground, hose, engines
 
     public int point(int height) {
-        if (!within(height, 0, MOST_HEIGHT)) {
-            return BAD;
-        }
-        return ground.points >= MOST_POINTS ? FULL : ground.addPoint(height);
+        return within(height, 0, MOST_HEIGHT) ? ground.addPoint(height) : BAD;
     }
 
     public int height(int point, int v) {
@@ -75,7 +72,7 @@ public final class OverHill {
         if (!ground.isPoint(from) || !ground.isPoint(to) || from == to || !within(lengths, 1, 30)) {
             return BAD;
         }
-        return ground.ways >= MOST_WAYS ? FULL : ground.addWay(from, to, lengths);
+        return ground.addWay(from, to, lengths);
     }
 
     public int bore(int bore, int what, int v) {
@@ -86,10 +83,7 @@ public final class OverHill {
     }
 
     public int engine(int fuel, int speed) {
-        if (!within(fuel, 0, MOST_FUEL) || !within(speed, 1, 9)) {
-            return BAD;
-        }
-        return gear.engines >= MOST_ENGINES ? FULL : gear.addEngine(fuel, speed);
+        return within(fuel, 0, MOST_FUEL) && within(speed, 1, 9) ? gear.addEngine(fuel, speed) : BAD;
     }
 
     public int feed(int n, int v) {
@@ -259,10 +253,7 @@ public final class OverHill {
     // ---- minutes, fuel, shares
 
     public int load(int minutes) {
-        if (!within(minutes, 1, 99)) {
-            return BAD;
-        }
-        return hands.count >= Hands.MOST_LOADS ? FULL : hands.add(minutes);
+        return within(minutes, 1, 99) ? hands.add(minutes) : BAD;
     }
 
     public int minutes(int k, int what) {
@@ -335,10 +326,7 @@ public final class OverHill {
     }
 
     public int thing(int weight, int worths) {
-        if (!within(weight, 1, 99) || !within(worths, 0, 999999)) {
-            return BAD;
-        }
-        return things.count >= Cart.MOST_THINGS ? FULL : things.add(weight, worths);
+        return within(weight, 1, 99) && within(worths, 0, 999999) ? things.add(weight, worths) : BAD;
     }
 
     public int cart(int most, int chances, int what) {
@@ -703,11 +691,17 @@ public final class OverHill {
         }
 
         int addPoint(int height) {
+            if (points >= MOST_POINTS) {
+                return FULL;
+            }
             settings.begin(HEIGHT_OF + points, height);
             return points++;
         }
 
         int addWay(int a, int b, int howLong) {
+            if (ways >= MOST_WAYS) {
+                return FULL;
+            }
             from[ways] = a;
             to[ways] = b;
             lengths[ways] = howLong;
@@ -778,6 +772,9 @@ public final class OverHill {
         }
 
         int addEngine(int fuel, int speed) {
+            if (engines >= MOST_ENGINES) {
+                return FULL;
+            }
             fuels[engines] = fuel;
             speeds[engines] = speed;
             return engines++;
@@ -1263,6 +1260,9 @@ public final class OverHill {
         int by;
 
         int add(int minutes) {
+            if (count >= MOST_LOADS) {
+                return FULL;
+            }
             loads[count] = minutes;
             count++;
             return count;
@@ -1314,6 +1314,9 @@ public final class OverHill {
         int weight;
 
         int add(int heavy, int atFires) {
+            if (count >= MOST_THINGS) {
+                return FULL;
+            }
             weights[count] = heavy;
             worths[count] = atFires;
             count++;

@@ -2,12 +2,25 @@
 final class Due {
     private int asked;
     private int wrong;
+    private String sentence = "";
+
+    /** The sentence of the document that the answers behind it are due to. */
+    void sentence(String words) {
+        sentence = "[" + words + "] ";
+    }
 
     void due(String call, long got, long want) {
         asked++;
         if (got != want) {
             wrong++;
-            System.out.println(call + " answered " + got + ", due is " + want);
+            System.out.println(sentence + call + " answered " + got + ", due is " + want);
+        }
+    }
+
+    /** The same answer is due for each of these numbers. */
+    void each(String call, int[] numbers, java.util.function.IntUnaryOperator asked, int want) {
+        for (int number : numbers) {
+            due(call + " of " + number, asked.applyAsInt(number), want);
         }
     }
 

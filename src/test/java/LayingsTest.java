@@ -33,11 +33,7 @@ public final class LayingsTest {
 
     /** A laying of a kind from point 0; parts as sort, number, bore. */
     static int lay(OverHill x, int kind, int... parts) {
-        int laying = x.laying(kind, 0);
-        for (int i = 0; i < parts.length; i += 3) {
-            D.due("a part comes", x.part(laying, parts[i], parts[i + 1], parts[i + 2]), i / 3 + 1);
-        }
-        return laying;
+        return Made.lay(x, kind, 0, parts);
     }
 
     private static void promise11() {
