@@ -11,6 +11,9 @@ public final class OverHill {
     private static final int MOST_FLOW = 600, MOST_NEED = 99999, LACKS = 100, FOOT = 43;
     private static final int MOST_HEIGHT = 999, MOST_FUEL = 999, FAULTS = -100;
 
+    /** Long.MIN_VALUE, told without the library: of Long it lends functions alone. */
+    private static final long NO_ELEMENT = 1L << 63;
+
     /** So many halvings leave one of no flow and the flows 0 .. 600. */
     private static final int HALVINGS = 10;
 
@@ -423,7 +426,7 @@ public final class OverHill {
 
     public long element(int shelf, int i) {
         Shelf on = shelfAt(shelf);
-        return on == null || on.refusal(i, 1) != 0 ? Long.MIN_VALUE : on.elements[i];
+        return on == null || on.refusal(i, 1) != 0 ? NO_ELEMENT : on.elements[i];
     }
 
     public int shift(int shelf, int i, int other, int j, int n) {
@@ -1253,6 +1256,8 @@ public final class OverHill {
     /** Loads, and the hands that carry them. */
     private static final class Hands {
         static final int MOST_LOADS = 8, MOST_HANDS = 4;
+        /** More than eight loads of 99 minutes take. */
+        static final int TOO_LONG = 1000;
         final int[] loads = new int[MOST_LOADS];
         final int[] carried = new int[MOST_HANDS];
         int count;
@@ -1269,7 +1274,7 @@ public final class OverHill {
         }
 
         void carry(int k) {
-            least = Integer.MAX_VALUE;
+            least = TOO_LONG;
             by = 0;
             give(this, k, 0, 0, 0);
         }
